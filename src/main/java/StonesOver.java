@@ -178,37 +178,19 @@ public final class StonesOver {
     // ---- matches
 
     public int match(int shelf, int nr, int i) {
-        Shelf from = shelfAt(shelf);
-        if (from == null || !isStonesAndRule(nr) || i < 0) {
-            return BAD;
-        }
-        int refusal = from.rowRefusal(Shelf.BYTES);
-        if (refusal != 0) {
-            return refusal;
-        }
-        contest.gather(from, nr / 10, nr % 10);
-        return i < contest.size() ? contest.scoreAt(i) : NOT;
+        int refusal = i < 0 ? BAD : matchRefusal(shelf, nr);
+        return refusal != 0 ? refusal : contest.scoreAt(i);
     }
 
     public int winner(int shelf, int nr) {
-        Shelf from = shelfAt(shelf);
-        if (from == null || !isStonesAndRule(nr)) {
-            return BAD;
-        }
-        int refusal = from.rowRefusal(Shelf.BYTES);
-        if (refusal != 0) {
-            return refusal;
-        }
-        contest.gather(from, nr / 10, nr % 10);
-        return contest.spitterAt(contest.firstPlace());
+        int refusal = matchRefusal(shelf, nr);
+        return refusal != 0 ? refusal : contest.spitterAt(contest.firstPlace());
     }
 
     public long last(int shelf, int nr, int part) {
-        Shelf from = shelfAt(shelf);
-        if (from == null || !isStonesAndRule(nr) || part < 0 || part > 2 || from.rowRefusal(Shelf.BYTES) != 0) {
+        if (part < 0 || part > 2 || matchRefusal(shelf, nr) != 0) {
             return Long.MIN_VALUE;
         }
-        contest.gather(from, nr / 10, nr % 10);
         if (contest.size() == 0) {
             return NOT;
         }
@@ -217,29 +199,13 @@ public final class StonesOver {
     }
 
     public int place(int shelf, int nr, int spitter) {
-        Shelf from = shelfAt(shelf);
-        if (from == null || !isStonesAndRule(nr) || !lane.isSpitter(spitter)) {
-            return BAD;
-        }
-        int refusal = from.rowRefusal(Shelf.BYTES);
-        if (refusal != 0) {
-            return refusal;
-        }
-        contest.gather(from, nr / 10, nr % 10);
-        return contest.greatestWinningPlace(spitter);
+        int refusal = lane.isSpitter(spitter) ? matchRefusal(shelf, nr) : BAD;
+        return refusal != 0 ? refusal : contest.greatestWinningPlace(spitter);
     }
 
     public int handicap(int shelf, int nr, int spitter) {
-        Shelf from = shelfAt(shelf);
-        if (from == null || !isStonesAndRule(nr) || !lane.isSpitter(spitter)) {
-            return BAD;
-        }
-        int refusal = from.rowRefusal(Shelf.BYTES);
-        if (refusal != 0) {
-            return refusal;
-        }
-        contest.gather(from, nr / 10, nr % 10);
-        return contest.leastHandicap(spitter);
+        int refusal = lane.isSpitter(spitter) ? matchRefusal(shelf, nr) : BAD;
+        return refusal != 0 ? refusal : contest.leastHandicap(spitter);
     }
 
     // ---- steps, marks
@@ -259,33 +225,21 @@ public final class StonesOver {
     }
 
     public int judge(int shelf, int sa) {
-        Shelf from = shelfAt(shelf);
-        if (from == null || !isSpitterAndAngle(sa)) {
-            return BAD;
-        }
-        int refusal = from.rowRefusal(Shelf.SHORTS);
-        return refusal != 0 ? refusal : marks.firstUnlike(from, sa / 10, sa % 10, 0);
+        int refusal = isSpitterAndAngle(sa) ? marksRefusal(shelf) : BAD;
+        return refusal != 0 ? refusal : marks.firstUnlike(sa / 10, sa % 10, 0);
     }
 
     public int who(int shelf, int what) {
-        Shelf from = shelfAt(shelf);
-        if (from == null || what < 0 || what > 1) {
-            return BAD;
-        }
-        int refusal = from.rowRefusal(Shelf.SHORTS);
+        int refusal = what < 0 || what > 1 ? BAD : marksRefusal(shelf);
         if (refusal != 0) {
             return refusal;
         }
-        return what == 0 ? marks.howManyMay(from) : marks.firstWhoMay(from);
+        return what == 0 ? marks.howManyMay() : marks.firstWhoMay();
     }
 
     public int ahead(int shelf, int sa) {
-        Shelf from = shelfAt(shelf);
-        if (from == null || !isSpitterAndAngle(sa)) {
-            return BAD;
-        }
-        int refusal = from.rowRefusal(Shelf.SHORTS);
-        return refusal != 0 ? refusal : marks.leastAhead(from, sa / 10, sa % 10);
+        int refusal = isSpitterAndAngle(sa) ? marksRefusal(shelf) : BAD;
+        return refusal != 0 ? refusal : marks.leastAhead(sa / 10, sa % 10);
     }
 
     public int drawn(int spitter, int sk, int seed, int nw) {
@@ -469,6 +423,32 @@ public final class StonesOver {
         return shelf >= 0 && shelf < shelves.length ? shelves[shelf] : null;
     }
 
+    /** Gathers the match of a row of bytes; if there is none, answers why. */
+    private int matchRefusal(int shelf, int nr) {
+        Shelf from = shelfAt(shelf);
+        if (from == null || !isStonesAndRule(nr)) {
+            return BAD;
+        }
+        int refusal = from.rowRefusal(Shelf.BYTES);
+        if (refusal == 0) {
+            contest.gather(from, nr / 10, nr % 10);
+        }
+        return refusal;
+    }
+
+    /** Reads the marks of a row of shorts; if there is none, answers why. */
+    private int marksRefusal(int shelf) {
+        Shelf from = shelfAt(shelf);
+        if (from == null) {
+            return BAD;
+        }
+        int refusal = from.rowRefusal(Shelf.SHORTS);
+        if (refusal == 0) {
+            marks.read(from);
+        }
+        return refusal;
+    }
+
     /** Lets one three of a row in; a three that is not as said, or no place for it, ends the row. */
     private boolean welcomeThree(Shelf from, int i) {
         long mouth = from.elementAt(i);
@@ -533,7 +513,7 @@ public final class StonesOver {
         }
 
         static boolean isWithin(int what, long v) {
-            return what >= 0 && what < LEAST.length && v >= LEAST[what] && v <= MOST[what];
+            return what >= MOUTH && what <= LAUGHS && v >= LEAST[what] && v <= MOST[what];
         }
 
         boolean isSpitter(int number) {
@@ -640,7 +620,7 @@ public final class StonesOver {
         }
 
         int stepBack(Lane lane) {
-            if (done <= 0) {
+            if (done <= 0 || done > MOST_KEPT) {
                 return STATE;
             }
             done--;
@@ -649,7 +629,7 @@ public final class StonesOver {
         }
 
         int stepOn(Lane lane) {
-            if (done >= kept) {
+            if (done < 0 || done >= kept || done >= MOST_KEPT) {
                 return STATE;
             }
             lane.write(cells[done], after[done]);
@@ -681,7 +661,7 @@ public final class StonesOver {
         private int drafted;
 
         int append(int letter) {
-            if (size < MOST_BYTES) {
+            if (size >= 0 && size < MOST_BYTES) {
                 bytes[size] = letter;
                 size++;
             }
@@ -829,7 +809,7 @@ public final class StonesOver {
         }
 
         private void draw(int step) {
-            if (drafted < draft.length) {
+            if (drafted >= 0 && drafted < draft.length) {
                 draft[drafted] = step;
                 drafted++;
             }
@@ -889,7 +869,7 @@ public final class StonesOver {
             named[4] = e;
             named[5] = t;
             top = 0;
-            for (int i = 0; i < length; i++) {
+            for (int i = 0; i < length && i < MOST_STEPS; i++) {
                 int step = code[i];
                 if (step == ENDS) {
                     return pop();
@@ -907,7 +887,7 @@ public final class StonesOver {
         private void work(int step) {
             if (step >= NAMED) {
                 int name = step - NAMED;
-                push(name < named.length ? named[name] : 0);
+                push(name >= 0 && name < named.length ? named[name] : 0);
             } else if (step >= 0) {
                 push(step);
             } else if (step == NEGATED) {
@@ -942,14 +922,14 @@ public final class StonesOver {
         }
 
         private void push(int v) {
-            if (top < DEEPEST) {
+            if (top >= 0 && top < DEEPEST) {
                 stack[top] = v;
                 top++;
             }
         }
 
         private int pop() {
-            if (top <= 0) {
+            if (top <= 0 || top > DEEPEST) {
                 return 0;
             }
             top--;
@@ -1387,10 +1367,12 @@ public final class StonesOver {
         }
     }
 
-    /** Steps that measure, and marks in the lane read back. */
+    /** Steps that measure, and the marks of a row, read anew for each call, that tell whose they are. */
     private static final class Marks {
         private final Lane lane;
         private final Thought thought;
+        private final int[] stops = new int[Shelf.MOST_ELEMENTS];
+        private int size;
 
         Marks(Lane lane, Thought thought) {
             this.lane = lane;
@@ -1412,22 +1394,29 @@ public final class StonesOver {
             return bits;
         }
 
+        void read(Shelf row) {
+            size = Math.min(row.length(), stops.length);
+            for (int i = 0; i < size; i++) {
+                stops[i] = (int) row.elementAt(i);
+            }
+        }
+
         /** The first mark that is not so; NOT: all are. */
-        int firstUnlike(Shelf row, int spitter, int angle, int ahead) {
-            for (int i = 0; i < row.length(); i++) {
+        int firstUnlike(int spitter, int angle, int ahead) {
+            for (int i = 0; i < size && i < stops.length; i++) {
                 thought.take(spitter, i % Lane.STONES, ahead + i);
-                if (lane.stopOf(thought.landing(angle, 0)) != row.elementAt(i)) {
+                if (lane.stopOf(thought.landing(angle, 0)) != stops[i]) {
                     return i;
                 }
             }
             return NOT;
         }
 
-        int howManyMay(Shelf row) {
+        int howManyMay() {
             int may = 0;
             for (int spitter = 0; spitter < lane.size(); spitter++) {
                 for (int angle = 0; angle < ANGLES; angle++) {
-                    if (firstUnlike(row, spitter, angle, 0) == NOT) {
+                    if (firstUnlike(spitter, angle, 0) == NOT) {
                         may++;
                     }
                 }
@@ -1435,10 +1424,10 @@ public final class StonesOver {
             return may;
         }
 
-        int firstWhoMay(Shelf row) {
+        int firstWhoMay() {
             for (int spitter = 0; spitter < lane.size(); spitter++) {
                 for (int angle = 0; angle < ANGLES; angle++) {
-                    if (firstUnlike(row, spitter, angle, 0) == NOT) {
+                    if (firstUnlike(spitter, angle, 0) == NOT) {
                         return 10 * spitter + angle;
                     }
                 }
@@ -1446,9 +1435,9 @@ public final class StonesOver {
             return NOT;
         }
 
-        int leastAhead(Shelf row, int spitter, int angle) {
+        int leastAhead(int spitter, int angle) {
             for (int ahead = 0; ahead <= MOST_AHEAD; ahead++) {
-                if (firstUnlike(row, spitter, angle, ahead) == NOT) {
+                if (firstUnlike(spitter, angle, ahead) == NOT) {
                     return ahead;
                 }
             }
