@@ -494,6 +494,8 @@ public final class StonesOver {
         private static final int STONE_CELLS = SIZE * SPITTERS;
         private static final int LANE_CELLS = STONE_CELLS + 2 * STONES;
         private static final int CELLS = LANE_CELLS + LAUGHS - WIND + 1;
+        private static final int GRASS_CELL = LANE_CELLS + GRASS - WIND, BARREL_CELL = LANE_CELLS + BARREL - WIND;
+        private static final int RIM_CELL = LANE_CELLS + RIM - WIND, HEN_CELL = LANE_CELLS + HEN - WIND;
         private static final int BARREL_POINTS = 30;
 
         private final int[] numbers;
@@ -545,7 +547,7 @@ public final class StonesOver {
                 return -1;
             }
             if (what < SIZE) {
-                return isSpitter(number) ? what * SPITTERS + number : -1;
+                return number >= 0 && number < spitters ? what * SPITTERS + number : -1;
             }
             if (what < WIND) {
                 return number >= 0 && number < STONES ? STONE_CELLS + (what - SIZE) * STONES + number : -1;
@@ -564,19 +566,22 @@ public final class StonesOver {
         }
 
         int told(int number, int what) {
-            return numberIn(cellOf(number, what));
+            int cell = cellOf(number, what);
+            return cell >= 0 && cell < numbers.length ? numbers[cell] : 0;
         }
 
         boolean isInBarrel(int lands) {
-            return Math.abs(lands - told(0, BARREL)) <= told(0, RIM);
+            int barrel = numbers[BARREL_CELL];
+            int rim = numbers[RIM_CELL];
+            return lands >= barrel - rim && lands <= barrel + rim;
         }
 
         boolean isHit(int lands) {
-            return lands == told(0, HEN);
+            return lands == numbers[HEN_CELL];
         }
 
         int stopOf(int lands) {
-            int grass = told(0, GRASS);
+            int grass = numbers[GRASS_CELL];
             if (isInBarrel(lands) || lands >= grass) {
                 return lands;
             }
@@ -825,13 +830,12 @@ public final class StonesOver {
         static final int NAMED = 10000, WHEN = 20000;
         static final int NEGATED = -1, ENDS = -2;
 
-        private static final int DEEPEST = 64;
+        private static final int DEEPEST = 64, NAMES = 6;
 
         private final int[] code = new int[MOST_STEPS];
         private final int[] stack = new int[DEEPEST];
-        private final int[] named = new int[6];
+        private final int[] named = new int[NAMES];
         private int length;
-        private int top;
 
         static int nameOf(int letter) {
             switch (letter) {
@@ -852,62 +856,54 @@ public final class StonesOver {
             }
         }
 
-        int lands(int a, int p, int z, int w, int e, int t) {
-            int far = length == 0 ? withoutText(a, p, z, w, e, t) : byText(a, p, z, w, e, t);
-            return Math.max(0, Math.min(FARTHEST, far));
+        boolean isTold() {
+            return length > 0;
         }
 
-        private static int withoutText(int a, int p, int z, int w, int e, int t) {
-            return p * (9 - Math.abs(a - 4)) * 2 + 6 * w - z * z / 2 + e * a - t;
-        }
-
-        private int byText(int a, int p, int z, int w, int e, int t) {
+        int worth(int a, int p, int z, int w, int e, int t) {
             named[0] = a;
             named[1] = p;
             named[2] = z;
             named[3] = w;
             named[4] = e;
             named[5] = t;
-            top = 0;
+            int top = -1;
             for (int i = 0; i < length && i < MOST_STEPS; i++) {
                 int step = code[i];
-                if (step == ENDS) {
-                    return pop();
-                }
-                if (step >= WHEN) {
-                    boolean counts = pop() != 0;
+                if (step >= 0 && step < WHEN) {
+                    top++;
+                    if (top < 0 || top >= DEEPEST) {
+                        return 0;
+                    }
+                    int name = step - NAMED;
+                    stack[top] = name >= 0 && name < NAMES ? named[name] : step;
+                } else if (top < 0 || top >= DEEPEST) {
+                    return 0;
+                } else if (step == ENDS) {
+                    return stack[top];
+                } else if (step >= WHEN) {
+                    boolean counts = stack[top] != 0;
+                    top--;
                     i = counts ? i : Math.max(i, step - WHEN - 1);
-                } else {
-                    work(step);
+                } else if (step == NEGATED) {
+                    stack[top] = -stack[top];
+                } else if (step == -'!') {
+                    stack[top] = stack[top] == 0 ? 1 : 0;
+                } else if (top >= 1) {
+                    top--;
+                    stack[top] = joined(-step, stack[top], stack[top + 1]);
                 }
             }
             return 0;
         }
 
-        private void work(int step) {
-            if (step >= NAMED) {
-                int name = step - NAMED;
-                push(name >= 0 && name < named.length ? named[name] : 0);
-            } else if (step >= 0) {
-                push(step);
-            } else if (step == NEGATED) {
-                push(-pop());
-            } else if (step == -'!') {
-                push(asNumber(pop() == 0));
-            } else {
-                int right = pop();
-                int left = pop();
-                push(joined(-step, left, right));
-            }
-        }
-
         private static int joined(int sign, int left, int right) {
             switch (sign) {
-                case '|': return asNumber(left != 0 || right != 0);
-                case '&': return asNumber(left != 0 && right != 0);
-                case '<': return asNumber(left < right);
-                case '=': return asNumber(left == right);
-                case '>': return asNumber(left > right);
+                case '|': return left != 0 || right != 0 ? 1 : 0;
+                case '&': return left != 0 && right != 0 ? 1 : 0;
+                case '<': return left < right ? 1 : 0;
+                case '=': return left == right ? 1 : 0;
+                case '>': return left > right ? 1 : 0;
                 case '+': return left + right;
                 case '-': return left - right;
                 case '*': return left * right;
@@ -915,25 +911,6 @@ public final class StonesOver {
                 case '%': return right == 0 ? 0 : left % right;
                 default: return 0;
             }
-        }
-
-        private static int asNumber(boolean so) {
-            return so ? 1 : 0;
-        }
-
-        private void push(int v) {
-            if (top >= 0 && top < DEEPEST) {
-                stack[top] = v;
-                top++;
-            }
-        }
-
-        private int pop() {
-            if (top <= 0 || top > DEEPEST) {
-                return 0;
-            }
-            top--;
-            return stack[top];
         }
     }
 
@@ -947,6 +924,7 @@ public final class StonesOver {
         private int stoneSize;
         private int wet;
         private int tired;
+        private int wind;
 
         Thought(Lane lane, Law law) {
             this.lane = lane;
@@ -958,6 +936,7 @@ public final class StonesOver {
             stoneSize = lane.told(stone, Lane.SIZE);
             wet = lane.told(stone, Lane.WET);
             tired = lane.told(spitter, Lane.TIRES) * ahead;
+            wind = lane.told(0, Lane.WIND);
         }
 
         void strengthen(int by) {
@@ -970,7 +949,12 @@ public final class StonesOver {
 
         int landing(int angle, int run) {
             int p = run == 1 ? strength + RUN_HELPS : strength;
-            return law.lands(angle, p, stoneSize, wet, lane.told(0, Lane.WIND), tired);
+            int far = law.isTold() ? law.worth(angle, p, stoneSize, wet, wind, tired) : withoutText(angle, p);
+            return Math.max(0, Math.min(FARTHEST, far));
+        }
+
+        private int withoutText(int a, int p) {
+            return p * (9 - Math.abs(a - 4)) * 2 + 6 * wet - stoneSize * stoneSize / 2 + wind * a - tired;
         }
 
         int bestAngleForStop() {
@@ -1000,7 +984,11 @@ public final class StonesOver {
         }
 
         int bestPoints(int run) {
-            return lane.pointsOf(landing(bestAngle(run), run));
+            int most = 0;
+            for (int angle = 0; angle < ANGLES; angle++) {
+                most = Math.max(most, lane.pointsOf(landing(angle, run)));
+            }
+            return most;
         }
 
         int bestAngleAndRun() {

@@ -5,10 +5,15 @@ import com.sun.source.util.TreePathScanner;
 import com.sun.source.util.Trees;
 import java.io.File;
 import java.util.ArrayDeque;
+import java.util.ArrayList;
 import java.util.Deque;
 import java.util.HashSet;
+import java.util.LinkedHashMap;
+import java.util.LinkedHashSet;
 import java.util.List;
+import java.util.Map;
 import java.util.Set;
+import javax.lang.model.element.ExecutableElement;
 import javax.lang.model.element.Modifier;
 import javax.lang.model.type.TypeKind;
 import javax.lang.model.type.TypeMirror;
@@ -26,6 +31,20 @@ public final class LanguageTest {
             "trace", "keep", "row", "put", "element", "shift", "taken", "count");
 
     private static int classes = 0;
+    private static final Map<Object, Set<Object>> calls = new LinkedHashMap<>();
+
+    /** The longest chain of calls from a method on, where each method of a recursion comes once. */
+    private static int deepest(Object method, List<Object> open) {
+        int deep = 0;
+        open.add(method);
+        for (Object called : calls.getOrDefault(method, Set.of())) {
+            if (!open.contains(called)) {
+                deep = Math.max(deep, deepest(called, open));
+            }
+        }
+        open.remove(open.size() - 1);
+        return deep + 1;
+    }
 
     public static void main(String[] args) throws Exception {
         JavaCompiler compiler = ToolProvider.getSystemJavaCompiler();
@@ -38,7 +57,11 @@ public final class LanguageTest {
                 new Rules(unit, Trees.instance(task)).scan(unit, null);
             }
         }
-        Due.is("classes are some twelve at most", classes <= 13 ? 1 : 0, 1);
+        Due.is("classes are some twelve at most", classes <= 12 ? 1 : 0, 1);
+        for (Object method : calls.keySet()) {
+            int deep = deepest(method, new ArrayList<>());
+            Due.is("calls open below " + method + " (" + deep + ") are eight at most", deep <= 8 ? 1 : 0, 1);
+        }
         Due.close("LanguageTest");
     }
 
@@ -135,8 +158,26 @@ public final class LanguageTest {
             return super.visitBinary(tree, v);
         }
 
+        private void noteCall(Tree called) {
+            for (TreePath at = getCurrentPath(); at != null; at = at.getParentPath()) {
+                if (at.getLeaf() instanceof MethodTree) {
+                    Object to = trees.getElement(new TreePath(getCurrentPath(), called));
+                    calls.computeIfAbsent(name(trees.getElement(at)), k -> new LinkedHashSet<>());
+                    if (to instanceof ExecutableElement && name(to).startsWith("StonesOver")) {
+                        calls.get(name(trees.getElement(at))).add(name(to));
+                    }
+                    return;
+                }
+            }
+        }
+
+        private static String name(Object method) {
+            return ((ExecutableElement) method).getEnclosingElement() + "." + method;
+        }
+
         @Override
         public Void visitMethodInvocation(MethodInvocationTree tree, Void v) {
+            noteCall(tree.getMethodSelect());
             if (tree.getMethodSelect() instanceof MemberSelectTree) {
                 MemberSelectTree select = (MemberSelectTree) tree.getMethodSelect();
                 String on = select.getExpression().toString();
