@@ -54,7 +54,7 @@ public final class StonesOver {
 
     public int spitters(int shelf, int i, int n) {
         Shelf from = shelfAt(shelf);
-        if (from == null || i < 0 || n < 1 || n > Lane.SPITTERS) {
+        if (from == null || n < 1 || n > Lane.SPITTERS) {
             return BAD;
         }
         int refusal = from.rowRefusal(Shelf.BYTES);
@@ -62,8 +62,9 @@ public final class StonesOver {
             return OTHER_KIND;
         }
         int came = 0;
-        // A SHELF that holds nothing has no elements: there the row is missing at once.
-        while (came < n && i <= from.length() - 3 * (came + 1) && welcomeThree(from, i + 3 * came)) {
+        // A SHELF that holds nothing has no places: there the row is missing at once. A place below 0 is no
+        // fault of the call either: no three begins there.
+        while (came < n && from.hasPlaces(i + 3 * came, 3) && welcomeThree(from, i + 3 * came)) {
             came++;
         }
         return came;

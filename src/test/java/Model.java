@@ -91,7 +91,7 @@ final class Model {
     }
 
     int spitters(int shelf, int i, int n) {
-        if (!in(shelf, 0, 5) || i < 0 || !in(n, 1, 6)) {
+        if (!in(shelf, 0, 5) || !in(n, 1, 6)) {
             return BAD;
         }
         Object held = shelves[shelf];
@@ -104,7 +104,7 @@ final class Model {
         byte[] row = (byte[]) held;
         int came = 0;
         for (long at = i; came < n; at += 3, came++) {
-            if (at + 2 >= row.length || spitters.size() == 6) {
+            if (!in(at, 0, row.length - 3) || spitters.size() == 6) {
                 break;
             }
             int mouth = row[(int) at], skill = row[(int) at + 1], tires = row[(int) at + 2];

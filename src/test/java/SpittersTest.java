@@ -5,6 +5,7 @@ public final class SpittersTest {
         spitterByMouthAndSkill();
         spittersFromARow();
         spittersFromARowThatLacksOrEnds();
+        spittersFromAPlaceBelowNought();
         mendTellsWhatItWas();
         mendHoldsTheBounds();
         ofReadsEachNumber();
@@ -79,7 +80,9 @@ public final class SpittersTest {
         Due.is("spitters(-1, 0, 1)", x.spitters(-1, 0, 1), -1);
         Due.is("spitters(2, 0, 0)", x.spitters(2, 0, 0), -1);
         Due.is("spitters(2, 0, 7)", x.spitters(2, 0, 7), -1);
-        Due.is("spitters(2, -1, 1)", x.spitters(2, -1, 1), -1);
+        Due.is("spitters(6, -1, 1)", x.spitters(6, -1, 1), -1);
+        Due.is("spitters(2, -1, 0)", x.spitters(2, -1, 0), -1);
+        Due.is("spitters(2, -1, 7)", x.spitters(2, -1, 7), -1);
     }
 
     private static void spittersFromARowThatLacksOrEnds() {
@@ -106,6 +109,37 @@ public final class SpittersTest {
         Due.is("full within the row", x.spitters(0, 0, 5), 4);
         Due.is("of(5, 0)", x.of(5, 0), 4);
         Due.is("full ahead of the row", x.spitters(0, 0, 5), 0);
+    }
+
+    /** The place has no bounds: where no three begins, nobody comes, and what is refused is so ahead of that. */
+    private static void spittersFromAPlaceBelowNought() {
+        for (int i : new int[] {-1, -2, -3, -4, -60, Integer.MIN_VALUE, Integer.MIN_VALUE + 1, -Integer.MAX_VALUE / 3}) {
+            StonesOver x = new StonesOver();
+            String from = "from place " + i;
+            for (int shelf = 0; shelf < 6; shelf++) {
+                for (int n = 1; n <= 6; n++) {
+                    Due.is(from + ", nothing there, " + n, x.spitters(shelf, i, n), 0);
+                }
+            }
+            Due.row(x, 0, 0, 1, 1, 1, 2, 2, 2, 3, 3, 3);
+            for (int n = 1; n <= 6; n++) {
+                Due.is(from + ", a row of bytes, " + n, x.spitters(0, i, n), 0);
+            }
+            Due.row(x, 1, 0);
+            Due.is(from + ", a row of no bytes", x.spitters(1, i, 2), 0);
+            for (int sort = 1; sort <= 4; sort++) {
+                Due.row(x, 2, sort, 1, 1, 1);
+                Due.is(from + ", a row of sort " + sort, x.spitters(2, i, 1), -12);
+            }
+            x.body(0);
+            x.keep(3, 0);
+            Due.is(from + ", a try", x.spitters(3, i, 1), -12);
+            Due.is(from + ", no such shelf", x.spitters(-1, i, 1), -1);
+            Due.is(from + ", n 0", x.spitters(0, i, 0), -1);
+            Due.is("nobody came", x.count(0), 0);
+            Due.is("the first who comes is 0", x.spitters(0, 3, 1), 1);
+            Due.is("of(0, 0)", x.of(0, 0), 2);
+        }
     }
 
     private static void mendTellsWhatItWas() {
