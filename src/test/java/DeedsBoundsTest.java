@@ -77,6 +77,14 @@ public final class DeedsBoundsTest {
         Due.is("POINTS go on", x.led(0, 0), 40);
         StonesOver nobody = new StonesOver();
         Due.is("nobody is there", nobody.rest(), 0);
+        StonesOver each = Due.lane(6, "a?300;400");
+        each.mend(0, 11, 300);
+        each.spit(5, 0, 0);
+        each.spit(5, 0, 10);
+        Due.is("two", each.rest(), 2);
+        Due.is("HENS go on", each.led(0, 4), 1);
+        Due.is("BARREL goes on", each.led(0, 5), 1);
+        Due.is("the best goes on", each.led(5, 1), 70);
     }
 
     private static void led() {

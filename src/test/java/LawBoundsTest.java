@@ -255,6 +255,8 @@ public final class LawBoundsTest {
             fault(sign.repeat(7) + "1" + end.repeat(7), 6);
             fault(sign.repeat(7), 6);
             fault("1+" + sign.repeat(7), 8);
+            fault("1?" + sign.repeat(7), 8);
+            fault("1;" + sign.repeat(7), 8);
             fault(sign + "1" + end + ("*" + sign + "1" + end).repeat(20), -1);
         }
         fault("(!-(!-1))", -1);

@@ -10,6 +10,7 @@ public final class MarksBoundsTest {
     static void ask() {
         measured();
         whoseSteps();
+        marks();
         judged();
         whoAtWhich();
         ahead();
@@ -76,6 +77,38 @@ public final class MarksBoundsTest {
         return x;
     }
 
+    private static void marks() {
+        Due.sentence("MARKS: a ROW of shorts: where STONES STOPPED, one after the other, from 0 ahead on, all of one SPITTER,"
+                + " without a RUN");
+        StonesOver x = Due.lane(1, "p=12?500;395+a-t");
+        x.mend(0, 11, 396);
+        Due.row(x, 0, 1, 500);
+        Due.is("not with a run", x.who(0, 0), 0);
+        Due.is("not with a run", x.judge(0, 0), 0);
+        Due.is("not with a run", x.ahead(0, 0), -2);
+        // In the barrel it stops, before it it rolls on: 395 at 0, and then 394 and 39 more.
+        Due.row(x, 0, 1, 395, 394 + 39, 393 + 39);
+        Due.is("stopped, not landed", x.judge(0, 0), -2);
+        Due.is("stopped, not landed", x.who(0, 1), 0);
+        Due.row(x, 0, 1, 395, 394);
+        Due.is("landed, not stopped", x.judge(0, 0), 1);
+        Due.row(x, 0, 1, 396, 395, 394 + 39);
+        Due.is("a hen is no matter", x.judge(0, 1), -2);
+        x.spit(0, 0, 0);
+        Due.is("from 0 ahead on", x.judge(0, 1), -2);
+        Due.is("from 0 ahead on", x.ahead(0, 1), 0);
+        Due.row(x, 0, 1, 395, 394 + 39);
+        Due.is("as with one ahead", x.ahead(0, 1), 1);
+        x.spitter(5, 5);
+        Due.law(x, "p");
+        Due.row(x, 0, 1, 9, 11);
+        Due.is("not of two", x.who(0, 0), 0);
+        for (int sort = 0; sort <= 4; sort++) {
+            Due.row(x, 1, sort, 9);
+            Due.is("a row of sort " + sort, x.who(1, 0), sort == 1 ? 9 : -12);
+        }
+    }
+
     private static void judged() {
         Due.sentence("JUDGED with STONES 0, 1, 2 in turn (9: 0 again) at one angle: the first that is not so; NOT");
         StonesOver x = told();
@@ -137,6 +170,10 @@ public final class MarksBoundsTest {
         Due.is("three", x.who(0, 1), 7);
         Due.law(x, "a=7&p>9|a=8?100;50");
         Due.is("by spitters ahead of angles", x.who(0, 1), 8);
+        Due.law(x, "a>8|a<0?300;100");
+        Due.row(x, 0, 1, 300);
+        Due.is("no angle beyond", x.who(0, 0), 0);
+        Due.is("no angle beyond", x.who(0, 1), -2);
         Due.is("what -1", x.who(0, -1), -1);
         Due.is("what 2", x.who(0, 2), -1);
     }

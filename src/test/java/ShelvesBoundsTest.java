@@ -71,6 +71,8 @@ public final class ShelvesBoundsTest {
             Due.is("BARREL tells " + v, x.act(5, 3, v), (v + 6) * -2 - (1 ^ 5) * 3 ^ 5);
             Due.is("SMALL spits " + v, x.act(6, 0, v), (v + 6) * 2);
             Due.is("SMALL lands " + v, x.act(6, 1, v), (v + 6) * 4);
+            Due.is("SMALL rolls " + v, x.act(6, 2, v), v ^ 6);
+            Due.is("SMALL tells " + v, x.act(6, 3, v), (v + 6) * 4 - 7);
             Due.is("SLIP lands " + v, x.act(7, 1, v), (v + 10) * 2 + (2 ^ 7) - 12);
             Due.is("SLIP rolls " + v, x.act(7, 2, v), (v ^ 7) - 12);
             Due.is("SLIP tells " + v, x.act(7, 3, v), (v + 10) * 2 + (2 ^ 7) - 12 - ((1 ^ 7) - 12) - 1);
@@ -321,6 +323,14 @@ public final class ShelvesBoundsTest {
         Due.sentence("SPITTERS FROM A ROW of bytes, from a place on: by threes MOUTH, SKILL, TIRES: n of them; it ends where the row"
                 + " is missing, ends (within a three, too), one is not so, or SPITTERS are FULL: those ahead came");
         came("the row is missing", new StonesOver(), 0, 6, 0);
+        StonesOver lost = new StonesOver();
+        Due.row(lost, 0, 0, 1, 0, 0, 1, 0, 0);
+        came("the row is there", lost, 0, 1, 1);
+        lost.keep(0, -1);
+        came("the row was there", lost, 0, 6, 0);
+        Due.row(lost, 0, 0, 1, 0, 0, 1, 0, 0);
+        Due.row(lost, 0, 0, 1, 0, 0);
+        came("the row was longer", lost, 0, 6, 1);
         for (int n = 0; n <= 18; n++) {
             StonesOver x = new StonesOver();
             x.row(0, 0, n);

@@ -66,6 +66,16 @@ public final class ThoughtBoundsTest {
         angles("100+a", 8, 0, 0);
         angles("108+a", 8, 2, 20);
         angles("a=2?395;a=7?420;0", 7, 2, 20);
+        angles("a>8|a<0?300;100", 0, 0, 0);
+        StonesOver beyond = Due.lane(1, "a>8|a<0?300;100");
+        beyond.mend(0, 8, 0);
+        Due.row(beyond, 0, 0, 0);
+        Due.is("no angle beyond, in an order", beyond.order(0, 11, 0, -1), 10);
+        Due.is("no angle beyond, at a risk", beyond.risk(0, 0, 100, 0) + beyond.risk(0, 0, 101, 0), 0);
+        Due.is("no angle beyond, at risks", beyond.risks(0, 0, 109, 0), 0);
+        Due.is("no angle beyond, in practice", beyond.practice(0, 0, 11, 0), -2);
+        Due.is("no angle beyond, in a match", beyond.match(0, 90, 0), 10);
+        Due.is("no angle beyond, in draws", beyond.drawn(0, 0, 0, 111), 10);
         Due.sentence("for all angles and both, RUN or not, that for POINTS: 10 times the angle and the RUN (of like ones the least)");
         angles("p=12&a=8?100;50", 0, 0, 81);
         angles("p=12&a=0?100;50", 0, 0, 1);
@@ -75,6 +85,8 @@ public final class ThoughtBoundsTest {
         angles("a=4&p=9|a=3&p=12?100;50", 4, 4, 31);
         angles("a=4&p=9|a=5&p=12?100;50", 4, 4, 40);
         angles("a=4&p=9?100;a=3&p=12?109;50", 4, 4, 31);
+        angles("a=4&p=9?200;p=12?190;50", 4, 4, 40);
+        angles("a=8&p=9?200;p=12?199;50", 8, 8, 80);
         angles("a=4&p=9?100;a=8&p=12?110;50", 4, 4, 81);
         StonesOver x = Due.lane(1, "p*10");
         x.mend(0, 3, 12);
