@@ -65,7 +65,6 @@ public final class MatchBoundsTest {
         howMany("just before", x, 1);
         Due.row(x, 0, 0, 3, 1, 2, 3, 4);
         howMany("long before", x, 3);
-        Due.row(x, 0, 0, 0);
         x.row(0, 0, 60);
         howMany("sixty that are 0", x, 1);
         Due.is("who is ended off has no place", x.place(0, 10, 1), -2);
@@ -235,7 +234,7 @@ public final class MatchBoundsTest {
         last("nobody", x, 91, -2, -2, -2);
         Due.is("nobody, part 3", x.last(0, 10, 3), NONE);
         Due.is("nobody, part -1", x.last(0, 10, -1), NONE);
-        last("nothing there", withNothing(), 10, NONE, NONE, NONE);
+        last("nothing there", strong(9), 10, NONE, NONE, NONE);
         for (int sort = 1; sort <= 4; sort++) {
             Due.row(x, 0, sort, 0);
             last("a row of sort " + sort, x, 10, NONE, NONE, NONE);
@@ -245,10 +244,6 @@ public final class MatchBoundsTest {
         last("a try", x, 10, NONE, NONE, NONE);
         Due.is("no such shelf", x.last(6, 10, 0), NONE);
         Due.is("no such shelf", x.last(-1, 10, 0), NONE);
-    }
-
-    private static StonesOver withNothing() {
-        return strong(9);
     }
 
     private static void places(String call, StonesOver x, int... want) {
