@@ -34,7 +34,7 @@ import javax.tools.ToolProvider;
 public final class Breaking {
     private static final Path SOURCE = Path.of("src/main/java/StonesOver.java");
     private static final String[] TESTS = {"LaneBoundsTest", "LawBoundsTest", "ThoughtBoundsTest", "MatchBoundsTest", "MarksBoundsTest",
-        "DeedsBoundsTest", "ShelvesBoundsTest", "PromisesTest", "MadeUpTest", "AnswersTest"};
+        "DeedsBoundsTest", "ShelvesBoundsTest", "ActsBoundsTest", "PromisesTest", "MadeUpTest", "AnswersTest"};
     private static final int LONGEST = 20000;
 
     /** What is looked for in a line, and what comes in its place. */

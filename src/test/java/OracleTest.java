@@ -3,7 +3,7 @@
  * from a fixed seed, so that a run that goes wrong does so each time.
  */
 public final class OracleTest {
-    private static final int RUNS = 1500, CALLS = 512;
+    private static final int RUNS = 2500, CALLS = 512;
 
     private static long seed;
     private static StonesOver x;
@@ -25,7 +25,7 @@ public final class OracleTest {
             if (draw(0, 1) == 0) {
                 evenSpitters();
             }
-            for (; call < CALLS; call++) {
+            while (call < CALLS) {
                 one(lean);
             }
         }
@@ -40,12 +40,10 @@ public final class OracleTest {
             same("spitter(" + a + ", " + b + ")", x.spitter(a, b), m.spitter(a, b));
             same("mend(" + i + ", 3, " + slips + ")", x.mend(i, 3, slips), m.mend(i, 3, slips));
             same("mend(" + i + ", 2, " + tires + ")", x.mend(i, 2, tires), m.mend(i, 2, tires));
-            call += 3;
         }
         for (int i = 0; i < 9; i++) {
             int size = draw(1, 9);
             same("mend(" + i + ", 5, " + size + ")", x.mend(i, 5, size), m.mend(i, 5, size));
-            call++;
         }
     }
 
@@ -65,8 +63,12 @@ public final class OracleTest {
         }
     }
 
-    private static void same(String call, long got, long want) {
-        Due.is("run " + run + " call " + OracleTest.call + ": " + call, got, want);
+    /** Answers behind the 512th call of an object are free. */
+    private static void same(String told, long got, long want) {
+        call++;
+        if (call <= CALLS) {
+            Due.is("run " + run + " call " + call + ": " + told, got, want);
+        }
     }
 
     private static int spitter() {
@@ -167,7 +169,6 @@ public final class OracleTest {
             pending = "";
             fed = 0;
         } else if (draw(0, 3) > 0) {
-            call++;
             feeding();
         }
     }
@@ -250,7 +251,6 @@ public final class OracleTest {
         for (int i = 0; i < n; i++) {
             int v = draw(0, 12) == 0 ? draw(-1, 6) : (i + shelf) % Math.max(1, m.spitters.size());
             same("put", x.put(shelf, i, v), m.put(shelf, i, v));
-            call++;
         }
     }
 
@@ -262,7 +262,6 @@ public final class OracleTest {
             int mark = Math.max(0, m.tries(s, i % 9 * 1000 + Math.min(99, k + i), angle * 10, 1));
             int v = draw(0, 20) == 0 ? mark + draw(-1, 1) : mark;
             same("put", x.put(shelf, i, v), m.put(shelf, i, v));
-            call++;
         }
     }
 
