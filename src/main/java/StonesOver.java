@@ -1488,7 +1488,7 @@ public final class StonesOver {
         }
 
         int ofAll(int what) {
-            return what >= 0 && TRIES + what < NUMBERS ? numbers[TRIES + what] : 0;
+            return what >= 0 && what < NUMBERS - TRIES ? numbers[TRIES + what] : 0;
         }
 
         int store() {
